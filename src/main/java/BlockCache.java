@@ -439,7 +439,9 @@ public final class BlockCache {
             if (dead && compares) {
                 return;
             }
-            int result = resultWithCarry(kind, word);
+            int left = state[Code.d(word)];
+            int right = Code.bytes(kind) == 2 ? Code.n(word) : state[Code.s(word)];
+            int result = resultWithCarry(kind, left, right);
             if (!compares) {
                 state[Code.d(word)] = result & 255;
             }
@@ -449,9 +451,7 @@ public final class BlockCache {
         }
 
         /** What comes, with the carry, the borrow or the bit that goes out as bit 8. */
-        private int resultWithCarry(int kind, int word) {
-            int left = state[Code.d(word)];
-            int right = Code.bytes(kind) == 2 ? Code.n(word) : state[Code.s(word)];
+        private int resultWithCarry(int kind, int left, int right) {
             switch (kind) {
                 case Code.ADD: case Code.ADDI: return left + right;
                 case Code.ADC: return left + right + state[CARRY];

@@ -4,6 +4,7 @@ public final class InvalidateTest {
         endsBehindTheWriter();
         sameByteCounts();
         otherPagesStay();
+        allPlacesOfAPage();
         byCall();
         byPushAndInterpreted();
         noExitFromOneThatIsGone();
@@ -45,6 +46,22 @@ public final class InvalidateTest {
         x.set(9, 64);
         x.run(1);
         Check.counts("page 2 stayed", x, 3, 4);
+    }
+
+    /** One-byte blocks at every place of pages 2 to 4; one byte of page 3 is written. */
+    private static void allPlacesOfAPage() {
+        BlockCache x = new BlockCache();
+        // 96 of size 1, and the writer's block, which has 5.
+        x.room(101);
+        for (int place = 64; place < 160; place++) {
+            x.set(9, place);
+            x.run(1);
+        }
+        Check.counts("a STOP at each place", x, 1, 96, 2, 96);
+        Check.load(x, 0, 0xB1, 100, 0x00);
+        x.set(9, 0);
+        x.run(2);
+        Check.counts("32 are gone", x, 1, 96 - 32 + 1, 2, 96 - 32 + 5, 4, 32, 5, 0);
     }
 
     /** CALL pushes into its own page: no exit. */

@@ -8,6 +8,7 @@ public final class LinkTest {
         aLinkNeedsBothBlocks();
         notByWhatIsInterpreted();
         aLinkWithoutRoomToRun();
+        anExitIsTakenAtOnceOrNot();
         aFlushTakesTheExit();
         Check.finish();
     }
@@ -132,6 +133,22 @@ public final class LinkTest {
         x.set(9, 0);
         x.run(3);
         Check.counts("and a lookup behind the interpreted one", x, 6, 5, 7, 3);
+    }
+
+    /** What is interpreted between takes no exit from the block before it. */
+    private static void anExitIsTakenAtOnceOrNot() {
+        BlockCache x = Check.with(0xC0, 64);
+        Check.load(x, 64, 0x10, 0xC0, 80);
+        x.run(3);
+        Check.counts("0 is linked to 64", x, 6, 2);
+        x.set(9, 0);
+        x.request(5);
+        x.run(3);
+        // At 64 one is interpreted, for the request; at 65 a block is run.
+        Check.counts("interpreted between", x, 6, 4, 7, 1);
+        x.set(9, 0);
+        x.run(3);
+        Check.counts("0 is linked to 64 still", x, 6, 5, 7, 1);
     }
 
     private static void aFlushTakesTheExit() {
