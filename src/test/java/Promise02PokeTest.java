@@ -3,6 +3,8 @@ public final class Promise02PokeTest {
         fourBytes();
         fewerAreTheHighest();
         wrapsAround();
+        everyPlaceAndMany();
+        onlyThePagesOfItsBytes();
         dropsBlocksOfItsPages();
         reachesBlocksThatBeginBefore();
         wrongArguments();
@@ -36,6 +38,44 @@ public final class Promise02PokeTest {
         Check.same("255", x.peek(255), 10);
         Check.same("0", x.peek(0), 11);
         Check.same("2", x.peek(2), 13);
+    }
+
+    /** From each place, so many bytes and no more. */
+    private static void everyPlaceAndMany() {
+        for (int place = 0; place <= 255; place++) {
+            BlockCache x = new BlockCache();
+            int many = 1 + place % 4;
+            x.poke(place, 0xF1F2F3F4, many);
+            for (int i = -1; i <= 4; i++) {
+                Check.same("place " + place + " many " + many + " byte " + i, x.peek((place + i) & 255),
+                    i >= 0 && i < many ? 0xF1 + i : 0);
+            }
+        }
+        for (int place = 252; place <= 255; place++) {
+            BlockCache y = new BlockCache();
+            y.poke(place, 0xF1F2F3F4, 4);
+            for (int i = 0; i < 4; i++) {
+                Check.same("four from " + place, y.peek((place + i) & 255), 0xF1 + i);
+            }
+        }
+    }
+
+    /** A STOP in each page; up to a page's last byte, or over it. */
+    private static void onlyThePagesOfItsBytes() {
+        for (int page = 0; page < 8; page++) {
+            for (int place = 32 * page + 27; place <= 32 * page + 32; place++) {
+                for (int many = 1; many <= 4; many++) {
+                    BlockCache x = new BlockCache();
+                    for (int first = 8; first < 256; first += 32) {
+                        x.set(9, first);
+                        x.run(1);
+                    }
+                    x.poke(place & 255, 0, many);
+                    boolean two = place <= 32 * page + 31 && place + many > 32 * page + 32;
+                    Check.counts("poke at " + place + " many " + many, x, 1, two ? 6 : 7, 2, two ? 6 : 7, 4, 0, 5, 0);
+                }
+            }
+        }
     }
 
     private static void dropsBlocksOfItsPages() {

@@ -9,8 +9,19 @@ public final class Promise03PeekTest {
         Check.argument("256", () -> x.peek(256));
         Check.argument("least", () -> x.peek(Integer.MIN_VALUE));
         Check.argument("greatest", () -> x.peek(Integer.MAX_VALUE));
+        everyPlace();
         seesWhatTheGuestWrites();
         Check.finish();
+    }
+
+    private static void everyPlace() {
+        BlockCache x = new BlockCache();
+        for (int place = 0; place < 256; place += 4) {
+            x.poke(place, (255 - place) << 24 | (254 - place) << 16 | (253 - place) << 8 | (252 - place), 4);
+        }
+        for (int place = 0; place < 256; place++) {
+            Check.same("peek(" + place + ")", x.peek(place), 255 - place);
+        }
     }
 
     private static void seesWhatTheGuestWrites() {

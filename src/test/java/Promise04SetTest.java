@@ -43,6 +43,8 @@ public final class Promise04SetTest {
             int w = what;
             Check.argument("value -1 of " + w, () -> x.set(w, -1));
             Check.argument("value 256 of " + w, () -> x.set(w, 256));
+            Check.argument("least value of " + w, () -> x.set(w, Integer.MIN_VALUE));
+            Check.argument("greatest value of " + w, () -> x.set(w, Integer.MAX_VALUE));
             if (what >= 5 && what <= 8) {
                 Check.argument("value 2 of " + w, () -> x.set(w, 2));
                 Check.argument("value 255 of " + w, () -> x.set(w, 255));
@@ -51,6 +53,7 @@ public final class Promise04SetTest {
         Check.argument("what -1", () -> x.set(-1, 0));
         Check.argument("what 10", () -> x.set(10, 0));
         Check.argument("what greatest", () -> x.set(Integer.MAX_VALUE, 0));
+        Check.argument("what least", () -> x.set(Integer.MIN_VALUE, 0));
         Check.sameText("what throws changes nothing", Check.visible(x), before);
     }
 }

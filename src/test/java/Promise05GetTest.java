@@ -10,6 +10,7 @@ public final class Promise05GetTest {
         Check.argument("-1", () -> x.get(-1));
         Check.argument("10", () -> x.get(10));
         Check.argument("least", () -> x.get(Integer.MIN_VALUE));
+        Check.argument("greatest", () -> x.get(Integer.MAX_VALUE));
         Check.finish();
     }
 }

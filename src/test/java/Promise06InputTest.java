@@ -20,6 +20,8 @@ public final class Promise06InputTest {
         Check.same("all are read", x.input(3), 1);
         Check.argument("-1", () -> x.input(-1));
         Check.argument("256", () -> x.input(256));
+        Check.argument("least", () -> x.input(Integer.MIN_VALUE));
+        Check.argument("greatest", () -> x.input(Integer.MAX_VALUE));
         Check.same("what throws changes nothing", x.input(3), 2);
     }
 
@@ -34,6 +36,22 @@ public final class Promise06InputTest {
         Check.same("the first one is read", x.get(0), 1);
         Check.same("there is a place again", x.input(99), 32);
         Check.state("full again", () -> x.input(33));
+        allAreReadInOrder();
+    }
+
+    /** Full, refused, then read to the end: 32 bytes, and 0 behind them. */
+    private static void allAreReadInOrder() {
+        BlockCache x = Check.with(2, 1, 0xC0, 0);
+        for (int i = 1; i <= 32; i++) {
+            x.input(200 + i % 55);
+        }
+        Check.state("refused", () -> x.input(1));
+        x.run(3 * 33);
+        for (int i = 1; i <= 32; i++) {
+            Check.same("byte " + i, x.output(i - 1), 200 + i % 55);
+        }
+        Check.same("behind them", x.output(32), 0);
+        Check.same("empty", x.input(1), 1);
     }
 
     private static void goesRoundManyTimes() {

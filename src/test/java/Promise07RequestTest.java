@@ -4,6 +4,8 @@ public final class Promise07RequestTest {
         mustBeAboveAllSoFar();
         mustNotBeBelowThoseRun();
         atMostSixteen();
+        theGreatestNumber();
+        refusedOnesDoNotCount();
         Check.finish();
     }
 
@@ -48,6 +50,34 @@ public final class Promise07RequestTest {
         x.run(5);
         Check.argument("4 of 5", () -> x.request(4));
         Check.same("5 of 5", x.request(5), 1);
+    }
+
+    private static void theGreatestNumber() {
+        BlockCache x = loop();
+        Check.same("0", x.request(0), 1);
+        Check.same("the greatest", x.request(Integer.MAX_VALUE), 2);
+        Check.argument("nothing is above it", () -> x.request(Integer.MAX_VALUE));
+        Check.argument("one below it", () -> x.request(Integer.MAX_VALUE - 1));
+        x.run(5000);
+        Check.counts("it keeps no block from being run", x, 0, 5000, 7, 2);
+    }
+
+    /** What was refused is not among "all so far". */
+    private static void refusedOnesDoNotCount() {
+        BlockCache x = loop();
+        x.run(10);
+        Check.argument("9", () -> x.request(9));
+        Check.same("10", x.request(10), 1);
+        Check.argument("10 again", () -> x.request(10));
+        for (int i = 1; i < 16; i++) {
+            Check.same("more", x.request(10 + i), 1 + i);
+        }
+        Check.state("full", () -> x.request(500));
+        Check.state("full", () -> x.request(26));
+        x.set(4, 128);
+        x.set(8, 1);
+        x.run(1);
+        Check.same("26, though 500 was refused", x.request(26), 16);
     }
 
     private static void atMostSixteen() {

@@ -4,6 +4,7 @@ public final class Promise08RoomTest {
         limitsABlock();
         flushesWhatDoesNotFit();
         linksAreGone();
+        theGreatestRoom();
         wrongArguments();
         Check.finish();
     }
@@ -49,6 +50,30 @@ public final class Promise08RoomTest {
         }
     }
 
+    /** Seven blocks of eight ROR have 57 each: 399. */
+    private static void theGreatestRoom() {
+        BlockCache x = new BlockCache();
+        for (int place = 0; place < 56; place += 4) {
+            x.poke(place, 0x83838383, 4);
+        }
+        x.room(400);
+        x.run(56);
+        Check.counts("seven of 57", x, 1, 7, 2, 399, 5, 0, 7, 0);
+        x.set(9, 128);
+        x.run(1);
+        Check.counts("400", x, 1, 8, 2, 400, 5, 0);
+        x.set(9, 129);
+        x.run(1);
+        Check.counts("one more", x, 1, 1, 2, 1, 5, 1);
+        x.room(1);
+        Check.counts("the least room", x, 1, 0, 2, 0, 5, 1);
+        x.set(9, 129);
+        x.run(1);
+        x.set(9, 130);
+        x.run(1);
+        Check.counts("one of 1 at a time", x, 1, 1, 2, 1, 5, 2, 7, 0);
+    }
+
     private static void linksAreGone() {
         BlockCache x = Check.with(0xC0, 0);
         x.run(5);
@@ -67,6 +92,7 @@ public final class Promise08RoomTest {
         Check.argument("401", () -> x.room(401));
         Check.argument("-1", () -> x.room(-1));
         Check.argument("greatest", () -> x.room(Integer.MAX_VALUE));
+        Check.argument("least", () -> x.room(Integer.MIN_VALUE));
         Check.sameText("what throws changes nothing", Check.visible(x), before);
         Check.load(x, 64, 0x10, 0x00);
         x.set(9, 64);

@@ -5,6 +5,7 @@ public final class Promise09RunTest {
         endsBeforeBad();
         allRunComesFirst();
         tooFewLeft();
+        fiveHundredAndTwelveCalls();
         wrongArguments();
         Check.finish();
     }
@@ -74,6 +75,18 @@ public final class Promise09RunTest {
         Check.counts("one block", x, 3, 8, 6, 8, 7, 7);
     }
 
+    /** As much as an object is ever asked for: the longest run in all its calls but the last two. */
+    private static void fiveHundredAndTwelveCalls() {
+        BlockCache x = new BlockCache();
+        // OUT; JMP 0
+        x.poke(0, 0x01C00000, 3);
+        for (int i = 0; i < 509; i++) {
+            Check.same("run(5000)", x.run(5000), 5000);
+        }
+        Check.same("the 511th call", x.count(0), 509 * 5000);
+        Check.same("the 512th call", x.count(10), 509 * 2500);
+    }
+
     private static void wrongArguments() {
         BlockCache x = new BlockCache();
         x.run(1);
@@ -82,6 +95,7 @@ public final class Promise09RunTest {
         Check.argument("-1", () -> x.run(-1));
         Check.argument("5001", () -> x.run(5001));
         Check.argument("greatest", () -> x.run(Integer.MAX_VALUE));
+        Check.argument("least", () -> x.run(Integer.MIN_VALUE));
         Check.sameText("what throws changes nothing", Check.visible(x), before);
     }
 }

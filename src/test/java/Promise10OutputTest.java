@@ -21,6 +21,20 @@ public final class Promise10OutputTest {
         y.run(2);
         Check.same("one", y.output(0), 200);
         Check.same("no second", y.output(1), -1);
+        aboutAHundred();
         Check.finish();
+    }
+
+    /** 98 to 102 bytes are given: those are there, up to the hundredth. */
+    private static void aboutAHundred() {
+        for (int given = 98; given <= 102; given++) {
+            BlockCache x = Check.with(0x01, 0x91, 1, 0xC0, 0);
+            x.run(3 * (given - 1) + 1);
+            Check.counts("given", x, 10, given);
+            for (int k = 96; k <= 103; k++) {
+                boolean isThere = k < given && k < 100;
+                Check.same("output(" + k + ") of " + given, x.output(k), isThere ? k : BlockCache.NONE);
+            }
+        }
     }
 }

@@ -4,6 +4,7 @@ public final class Promise11CountTest {
         Check.argument("-1", () -> x.count(-1));
         Check.argument("12", () -> x.count(12));
         Check.argument("least", () -> x.count(Integer.MIN_VALUE));
+        Check.argument("greatest", () -> x.count(Integer.MAX_VALUE));
         everyCountMoves();
         deadOnesOfTranslatedBlocksAlone();
         lastRunsEnd();
