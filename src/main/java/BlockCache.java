@@ -550,7 +550,7 @@ public final class BlockCache {
         }
 
         private void give(int value) {
-            if (given < MOST_OUTPUTS) {
+            if (given >= 0 && given < MOST_OUTPUTS) {
                 outputs[given] = value;
             }
             given++;

@@ -23,7 +23,7 @@ public final class ModelTest {
     private static boolean sameAnswers(Random random) {
         BlockCache x = new BlockCache();
         Model m = new Model();
-        int style = random.nextInt(6);
+        int style = random.nextInt(RandomCode.STYLES);
         int calls = fill(random, style, x, m);
         for (; calls < CALLS; calls++) {
             String call = call(random, style, x, m);
@@ -50,41 +50,12 @@ public final class ModelTest {
     private static int fill(Random random, int style, BlockCache x, Model m) {
         int calls = 0;
         for (int place = 0; place < 256; place += 4) {
-            int number = 0;
-            for (int i = 0; i < 4; i++) {
-                number = number << 8 | code(random, style);
-            }
+            int number = RandomCode.four(random, style);
             x.poke(place, number, 4);
             m.poke(place, number, 4);
             calls++;
         }
         return calls;
-    }
-
-    /** A byte of code: by style more arithmetic, more jumps, more writes, or anything. */
-    private static int code(Random random, int style) {
-        int low = random.nextInt(16);
-        int kind = random.nextInt(100);
-        switch (style) {
-            case 0:
-                return random.nextInt(256);
-            case 1:
-                return kind < 60 ? (2 + random.nextInt(7)) << 4 | low : kind < 75 ? 0x90 | low : kind < 90
-                    ? 0xC0 | random.nextInt(7) : 0x10 | low;
-            case 2:
-                return kind < 30 ? 0xC0 | random.nextInt(7) : kind < 45 ? 0xF0 | low & 12 : kind < 55
-                    ? 0xD0 | random.nextInt(2) : kind < 90 ? (1 + random.nextInt(9)) << 4 | low : 3;
-            case 3:
-                return kind < 20 ? 0xB0 | low : kind < 35 ? 0xE0 | low & 13 : kind < 40 ? 0xD0 : kind < 60
-                    ? 0xC0 | random.nextInt(7) : (1 + random.nextInt(8)) << 4 | low;
-            case 4:
-                return kind < 8 ? 1 + random.nextInt(4) : kind < 12 ? 0xB0 | low : kind < 16 ? 0xE0 | low & 13
-                    : kind < 30 ? 0xC0 | random.nextInt(7) : kind < 40 ? 0xF0 | low & 12
-                    : (1 + random.nextInt(10)) << 4 | low;
-            default:
-                return kind < 50 ? 0x10 | low : kind < 70 ? 0x90 | low : kind < 72 ? 3 : kind < 90
-                    ? 0xC0 | random.nextInt(7) : random.nextInt(256);
-        }
     }
 
     private static String call(Random random, int style, BlockCache x, Model m) {
@@ -115,8 +86,7 @@ public final class ModelTest {
             return "room " + size;
         }
         int place = random.nextInt(256);
-        int number = code(random, style) << 24 | code(random, style) << 16 | code(random, style) << 8
-            | code(random, style);
+        int number = RandomCode.four(random, style);
         int many = 1 + random.nextInt(4);
         x.poke(place, number, many);
         m.poke(place, number, many);
